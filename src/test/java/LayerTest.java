@@ -124,6 +124,27 @@ public final class LayerTest {
         Checks.due("all have one layer", x.bestStrategy(), 0);
         x.setTileCapacity(0);
         Checks.due("all fail", x.bestStrategy(), EscapeRouter.NONE);
+        counts("pppppp;spspss;psps.s;pppss.;", 1, new int[] {3, 2, 3, 3}, 1);
+        counts("sps.ss;ps.pss;pps.sp;pssp.s;pppsps;", 2, new int[] {3, 2, 3, 2}, 1);
+        counts("ppsssp;pp.pss;sspppp;pssppp;ps.ssp;pppppp;", 1, new int[] {5, 5, 4, 5}, 2);
+        counts("ssppss;pssspp;ssssps;s.ssss;.sssss;", 1, new int[] {3, 3, 3, 2}, 3);
+    }
+
+    /** Found by search; the counts are those of the slow model too. */
+    private static void counts(String text, int tileCapacity, int[] counts, int best) {
+        EscapeRouter x = Checks.loaded(text, 0, tileCapacity);
+        Model model = new Model();
+        for (int i = 0; i < text.length(); i++) {
+            model.appendCharacter(text.charAt(i));
+        }
+        model.loadGrid();
+        model.setChannelCapacity(0);
+        model.setTileCapacity(tileCapacity);
+        for (int strategy = 0; strategy < 4; strategy++) {
+            Checks.due("layerCount of " + text, x.layerCount(strategy), counts[strategy]);
+            Checks.due("the model's", model.layerCount(strategy), counts[strategy]);
+        }
+        Checks.due("bestStrategy of " + text, x.bestStrategy(), best);
     }
 
     private static void promise25() {
