@@ -385,7 +385,10 @@ public final class EscapeRouter {
             tileCapacity = other.tileCapacity;
             System.arraycopy(other.kinds, 0, kinds, 0, POSITIONS);
             System.arraycopy(other.partners, 0, partners, 0, POSITIONS);
-            System.arraycopy(other.selected, 0, selected, 0, POSITIONS);
+            // LANGUAGE.md allows arraycopy for arrays of numbers alone.
+            for (int place = 0; place < POSITIONS; place++) {
+                selected[place] = other.selected[place];
+            }
         }
 
         /** Places outside the grid become NONE_THERE, so that counts may go over all places. */

@@ -10,6 +10,7 @@ public final class ModelTest {
     private final EscapeRouter router = new EscapeRouter();
     private final Model model = new Model();
     private final StringBuilder calls = new StringBuilder();
+    private int done = 0;
     private int wrong = 0;
 
     private ModelTest(long seed) {
@@ -21,9 +22,8 @@ public final class ModelTest {
         long firstSeed = args.length > 1 ? Long.parseLong(args[1]) : 1;
         for (int run = 0; run < runs; run++) {
             ModelTest test = new ModelTest(firstSeed + run);
-            int done = 0;
-            while (done < CALLS && test.wrong == 0) {
-                done += test.step();
+            while (test.done < CALLS && test.wrong == 0) {
+                test.step();
             }
             Checks.due("run of seed " + (firstSeed + run), test.wrong, 0);
             if (test.wrong != 0) {
@@ -33,7 +33,9 @@ public final class ModelTest {
         Checks.finish("ModelTest");
     }
 
+    /** To be called once for each call of the router: it counts them. */
     private void compare(String call, int got, int want) {
+        done++;
         calls.append(call).append(" = ").append(got).append('\n');
         if (got != want) {
             wrong++;
@@ -57,30 +59,30 @@ public final class ModelTest {
         return random.nextInt(30) == 0 ? within(-1, 4) : random.nextInt(4);
     }
 
-    /** One call, or a whole text with loadGrid behind it; answers how many calls it made. */
-    private int step() {
+    /** One call, or a whole text with loadGrid behind it. */
+    private void step() {
         int choice = random.nextInt(100);
         if (choice < 3) {
-            return load();
-        }
-        if (choice < 55) {
+            load();
+        } else if (choice < 55) {
             edit(choice);
         } else {
             ask(choice);
         }
-        return 1;
     }
 
-    private int load() {
+    /** The text is cut off where the calls come to their end, so that loadGrid is the last of them. */
+    private void load() {
         String text = random.nextInt(3) == 0 ? wildText() : grid();
         int before = router.clearText();
         compare("clearText()", before, model.clearText());
-        for (int i = 0; i < text.length(); i++) {
+        for (int i = 0; i < text.length() && done < CALLS - 1; i++) {
             int code = text.charAt(i);
             compare("appendCharacter(" + code + ")", router.appendCharacter(code), model.appendCharacter(code));
         }
-        compare("loadGrid() of <" + text + ">", router.loadGrid(), model.loadGrid());
-        return text.length() + 2;
+        if (done < CALLS) {
+            compare("loadGrid() of <" + text + ">", router.loadGrid(), model.loadGrid());
+        }
     }
 
     private String wildText() {
@@ -107,8 +109,8 @@ public final class ModelTest {
     }
 
     private void edit(int choice) {
-        int row = index(router.rows());
-        int column = index(router.columns());
+        int row = index(model.rows());
+        int column = index(model.columns());
         String place = row + ", " + column;
         if (choice < 8) {
             int kind = within(-1, 3);
@@ -145,8 +147,8 @@ public final class ModelTest {
     }
 
     private void ask(int choice) {
-        int row = index(router.rows());
-        int column = index(router.columns());
+        int row = index(model.rows());
+        int column = index(model.columns());
         int strategy = strategy();
         String place = row + ", " + column;
         if (choice < 57) {
@@ -155,13 +157,15 @@ public final class ModelTest {
             compare("partnerOf(" + place + ")", router.partnerOf(row, column), model.partnerOf(row, column));
         } else if (choice < 62) {
             compare("rows()", router.rows(), model.rows());
+        } else if (choice < 64) {
             compare("columns()", router.columns(), model.columns());
+        } else if (choice < 65) {
             compare("signalCount()", router.signalCount(), model.signalCount());
-        } else if (choice < 66) {
+        } else if (choice < 69) {
             compare("escapeCount()", router.escapeCount(), model.escapeCount());
         } else if (choice < 76) {
-            int tileRow = index(router.rows() + 1);
-            int tileColumn = index(router.columns() + 1);
+            int tileRow = index(model.rows() + 1);
+            int tileColumn = index(model.columns() + 1);
             compare("tileSide(" + tileRow + ", " + tileColumn + ")", router.tileSide(tileRow, tileColumn),
                     model.tileSide(tileRow, tileColumn));
         } else if (choice < 80) {
